@@ -1,0 +1,124 @@
+import java.io.IOException;
+import java.lang.reflect.Constructor;
+import java.lang.reflect.Field;
+import java.lang.reflect.Method;
+import java.lang.reflect.Modifier;
+import java.nio.file.Files;
+import java.nio.file.Path;
+import java.util.Arrays;
+import java.util.Set;
+import java.util.TreeSet;
+import java.util.stream.Collectors;
+
+/** The public face of the document, and the rules of LANGUAGE.md that can be seen from outside. */
+public final class FaceTest {
+    private static final String[] FACE = {
+        "int append(int, int, int, int, int) IllegalStateException",
+        "int truncate(int) IndexOutOfBoundsException",
+        "int load() IllegalArgumentException",
+        "int errorCode()",
+        "int errorPosition()",
+        "int count(int) IllegalArgumentException",
+        "boolean isSiding(int) IndexOutOfBoundsException",
+        "int train(int, int) IndexOutOfBoundsException, IllegalArgumentException",
+        "int order(boolean, int, int) IndexOutOfBoundsException",
+        "int planned(int, int, boolean) IndexOutOfBoundsException, NoSuchElementException",
+        "int plan(int, int, int) IndexOutOfBoundsException, IllegalStateException",
+        "int setSupplement(int, int, int) IndexOutOfBoundsException, IllegalArgumentException",
+        "int supplement(int, int) IndexOutOfBoundsException",
+        "int buffer(int, int) IndexOutOfBoundsException, NoSuchElementException",
+        "double speed(int) IndexOutOfBoundsException",
+        "int lastArrival() NoSuchElementException",
+        "int disturb(int, int, boolean, int) IndexOutOfBoundsException, IllegalArgumentException, "
+                + "NoSuchElementException, IllegalStateException",
+        "int clear()",
+        "int actual(int, int, boolean) IndexOutOfBoundsException, NoSuchElementException",
+        "int totalDelay()",
+        "int lateTrains()",
+        "double punctuality(int) IllegalArgumentException, NoSuchElementException",
+        "boolean isKept(int) IndexOutOfBoundsException",
+        "int missed()",
+        "int cause(int, int, boolean) IndexOutOfBoundsException, NoSuchElementException",
+        "int recovery()",
+        "int overtake(int, int, int) IndexOutOfBoundsException, IllegalStateException",
+        "int bestOvertaking()",
+        "int dispatch()",
+        "int tolerance(int, int) IndexOutOfBoundsException, NoSuchElementException",
+        "int leastDelay(int, int) IndexOutOfBoundsException, IllegalArgumentException",
+        "int distribute(int, int) IndexOutOfBoundsException, IllegalArgumentException",
+    };
+
+    private static final Check check = new Check();
+
+    public static void main(String[] args) throws IOException {
+        face();
+        privateNames();
+        source(Files.readString(Path.of("src/main/java/TrainTimetable.java")));
+        check.end();
+    }
+
+    private static String names(Class<?>[] types) {
+        return Arrays.stream(types).map(Class::getSimpleName).collect(Collectors.joining(", "));
+    }
+
+    private static String describe(Method method) {
+        String head = method.getReturnType().getSimpleName() + " " + method.getName();
+        return (head + "(" + names(method.getParameterTypes()) + ") " + names(method.getExceptionTypes())).trim();
+    }
+
+    private static void face() {
+        Class<?> type = TrainTimetable.class;
+        check.equal("public and final", Modifier.PUBLIC | Modifier.FINAL, type.getModifiers());
+        check.equal("NONE", -1, TrainTimetable.NONE);
+        Set<String> methods = new TreeSet<>();
+        for (Method method : type.getDeclaredMethods()) {
+            if (!Modifier.isPrivate(method.getModifiers())) {
+                check.equal(method.getName() + " is public", Modifier.PUBLIC, method.getModifiers());
+                methods.add(describe(method));
+            }
+        }
+        check.equal("methods", new TreeSet<>(Arrays.asList(FACE)), methods);
+        for (Field field : type.getDeclaredFields()) {
+            boolean isFace = field.getName().equals("NONE");
+            check.equal(field.getName() + " is private", !isFace, Modifier.isPrivate(field.getModifiers()));
+        }
+        for (Constructor<?> constructor : type.getDeclaredConstructors()) {
+            check.equal("constructor", "public TrainTimetable()", constructor.toString());
+        }
+        for (Class<?> inner : type.getDeclaredClasses()) {
+            check.equal(inner + " is static", true, Modifier.isStatic(inner.getModifiers()));
+            check.equal(inner + " is private", true, Modifier.isPrivate(inner.getModifiers()));
+        }
+    }
+
+    private static void privateNames() {
+        Set<String> taken = new TreeSet<>();
+        for (String method : FACE) {
+            taken.add(method.substring(method.indexOf(' ') + 1, method.indexOf('(')));
+        }
+        TreeSet<String> names = new TreeSet<>();
+        for (Method method : TrainTimetable.class.getDeclaredMethods()) {
+            if (Modifier.isPrivate(method.getModifiers())) {
+                names.add(method.getName());
+            }
+        }
+        for (Class<?> inner : TrainTimetable.class.getDeclaredClasses()) {
+            for (Method method : inner.getDeclaredMethods()) {
+                names.add(method.getName());
+            }
+        }
+        names.retainAll(taken);
+        check.equal("names of the face inside", new TreeSet<String>(), names);
+    }
+
+    private static void source(String source) {
+        for (String banned : new String[] {"->", "::", "catch", "finally", "synchronized", "assert ", "Exact",
+            "package ", "static {", "instanceof"}) {
+            check.equal("the source has " + banned, false, source.contains(banned));
+        }
+        Set<String> imports = source.lines().filter(line -> line.startsWith("import "))
+                .collect(Collectors.toCollection(TreeSet::new));
+        check.equal("imports", Set.of("import java.util.Arrays;", "import java.util.NoSuchElementException;"),
+                imports);
+    }
+}
