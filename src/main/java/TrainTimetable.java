@@ -435,6 +435,9 @@ public final class TrainTimetable {
     private int findBest() {
         int least = actualTimes.sumOfDelays();
         int best = NONE;
+        if (least == 0) {
+            return NONE;
+        }
         for (int station = 0; station < line.stations - 1; station++) {
             for (int a = 0; a < line.trains; a++) {
                 for (int b = 0; b < line.trains; b++) {
@@ -470,7 +473,8 @@ public final class TrainTimetable {
                 least = delay;
                 distribution.keepAsBest();
             }
-            goesOn = distribution.advance();
+            // No delay is less than 0, and the ways come in the order in which they are preferred.
+            goesOn = least > 0 && distribution.advance();
         }
         return least;
     }

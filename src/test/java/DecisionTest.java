@@ -60,6 +60,9 @@ public final class DecisionTest {
         TrainTimetable y = Check.loaded(SLOW_AND_FAST);
         y.overtake(1, 0, 1);
         check.due("back at station 1", 110, y::bestOvertaking);
+        check.due("it is done there", 1, y::dispatch);
+        check.due("the order at station 1", 0, () -> y.order(true, 1, 0));
+        check.due("the delay then", 0, y::totalDelay);
         // without the siding it is not possible
         TrainTimetable z = Check.loaded("line plain 10 siding;train 0 1 0 1 0;train 0 1 3 1 0;");
         z.disturb(0, 0, false, 50);
@@ -218,6 +221,13 @@ public final class DecisionTest {
     }
 
     private static void distributeOfEquals() {
+        TrainTimetable w = Check.loaded(ONE);
+        w.disturb(0, 1, true, 5);
+        w.disturb(0, 2, true, 5);
+        check.due("more delay than minutes", 3 + 8, () -> w.distribute(0, 2));
+        check.due("the delay then", 11, w::totalDelay);
+        check.due("the actual arrival then", 15, () -> w.actual(0, 1, true));
+
         TrainTimetable x = Check.loaded(ONE);
         x.disturb(0, 1, false, 1);
         check.due("distribute", 0, () -> x.distribute(0, 3));

@@ -280,6 +280,9 @@ public final class DelayTest {
         check.due("behind an arrival", 28, x::recovery);
         x.clear();
         check.due("no event is delayed any more", 0, x::recovery);
+        x.setSupplement(0, 0, 1);
+        x.disturb(0, 0, false, 1);
+        check.due("behind the first departure", 2, x::recovery);
         TrainTimetable y = Check.loaded("line siding 10 siding;train 0 1 100 1 0;train 0 1 0 1 0;");
         y.disturb(1, 0, false, 1);
         check.due("an event in time does not count", 12, y::recovery);

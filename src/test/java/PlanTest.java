@@ -144,6 +144,8 @@ public final class PlanTest {
             check.due("actual order of segment " + s, first[s], () -> x.order(true, segment, 0));
         }
         check.due("disturbances stay", 1, () -> x.count(3));
+        times(check, x, true, 0, 1, 31, 37, 67, 67, 97);
+        times(check, x, true, 1, 4, 34, 34, 44, 44, 54);
         check.wrongState("not in all orders", () -> x.plan(0, 0, 1));
         check.wrongState("overtaken already", () -> x.plan(1, 0, 1));
         check.due("plan back", 90, () -> x.plan(1, 1, 0));
@@ -230,6 +232,8 @@ public final class PlanTest {
     }
 
     private static void speed() {
+        TrainTimetable fast = Check.loaded("line siding 1 siding;train 0 1 0 1 0;");
+        check.due("speed over one minute", 1.0, () -> fast.speed(0));
         TrainTimetable x = Check.loaded("line siding 10 siding 20 siding 7 siding;"
                 + "train 0 2 5 2 4;train 1 3 300 1 0;");
         check.due("speed(0)", 30.0 / 64.0, () -> x.speed(0));

@@ -13,6 +13,7 @@ public final class TextTest {
         append();
         truncate();
         load();
+        loadLess();
         failedLoad();
         limits();
         tokens();
@@ -124,6 +125,38 @@ public final class TextTest {
         check.due("no trains", 0, () -> x.count(1));
     }
 
+    /** Nothing of a longer text is left behind a shorter one. */
+    private static void loadLess() {
+        TrainTimetable x = Check.loaded("line siding 10 siding 10 plain 10 siding 60 siding;headway 20;wait 0;"
+                + "train 0 4 900 5 20;train 1 4 1000 5 20;train 0 4 1000 5 20;connect 0 1 1 30;connect 0 2 1 30;");
+        x.setSupplement(1, 1, 9);
+        x.setSupplement(0, 2, 9);
+        x.disturb(0, 2, true, 120);
+        x.disturb(2, 0, false, 120);
+        x.overtake(1, 0, 1);
+        Check.put(x, "line plain 10 siding 10 siding;train 1 2 5 1 0;");
+        check.due("load", 1, x::load);
+        check.due("planned departure", 5, () -> x.planned(0, 1, false));
+        check.due("planned arrival", 15, () -> x.planned(0, 2, true));
+        check.due("actual arrival", 15, () -> x.actual(0, 2, true));
+        check.due("lastArrival", 15, x::lastArrival);
+        check.due("lateTrains", 0, x::lateTrains);
+        check.due("totalDelay", 0, x::totalDelay);
+        check.due("recovery", 0, x::recovery);
+        check.due("missed", 0, x::missed);
+        check.due("bestOvertaking", -1, x::bestOvertaking);
+        check.noSuchIndex("a former train", () -> x.supplement(1, 1));
+        check.noSuchIndex("a former connection", () -> x.isKept(0));
+        check.noSuchIndex("a former station", () -> x.isSiding(3));
+        Check.put(x, "line siding 10 siding 10 siding;train 0 2 0 1 0;");
+        check.due("load another", 1, x::load);
+        check.due("departure from a former first station", 10, () -> x.planned(0, 1, false));
+        x.disturb(0, 0, false, 1);
+        check.due("totalDelay of one train", 2, x::totalDelay);
+        check.due("lateTrains of one train", 1, x::lateTrains);
+        check.due("recovery of one train", 22, x::recovery);
+    }
+
     private static void failedLoad() {
         TrainTimetable x = Check.loaded(TWO_TRAINS);
         x.disturb(0, 0, false, 7);
@@ -181,6 +214,9 @@ public final class TextTest {
         right("line siding1siding;headway3;wait0;train0 1 0 1 0;");
         right("line siding 0001 siding;train 0 0001 0999 0005 00;");
         error("linesiding 1 siding;", 1, 0);
+        error("linez siding 1 siding;", 1, 0);
+        error("mine siding 1 siding;", 1, 0);
+        error("lind siding 1 siding;", 1, 0);
         error("line sidings 1 siding;", 1, 5);
         error("line Siding 1 siding;", 1, 5);
         error("line siding 00001 siding;", 1, 12);
@@ -315,6 +351,8 @@ public final class TextTest {
         right(line + ";");
         error(line + " 8 siding;", 5, line.length() + 1);
         error(line + " 8", 5, line.length() + 1);
+        error(line + " 1 siding;", 5, line.length() + 1);
+        error(line + " 60 siding;", 5, line.length() + 1);
         // of several errors at the same position, the one with the lowest code
         error(line + " 61 siding;", 2, line.length() + 1);
         error(line + " 0 siding;", 2, line.length() + 1);
