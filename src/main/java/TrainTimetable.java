@@ -148,8 +148,6 @@ public final class TrainTimetable {
 
     public int planned(int train, int station, boolean isArrival)
             throws IndexOutOfBoundsException, NoSuchElementException {
-        requireTrain(train);
-        requireStation(station);
         requireEvent(train, station, isArrival);
         return planTimes.time(train, station, isArrival);
     }
@@ -212,6 +210,7 @@ public final class TrainTimetable {
     public int disturb(int train, int station, boolean isArrival, int minutes)
             throws IndexOutOfBoundsException, IllegalArgumentException, NoSuchElementException,
                     IllegalStateException {
+        // Tested before the minutes, because a wrong index is thrown first, and a missing event later.
         requireTrain(train);
         requireStation(station);
         if (minutes < 1 || minutes > MAX_MINUTES_OF_DISTURBANCE) {
@@ -239,8 +238,6 @@ public final class TrainTimetable {
 
     public int actual(int train, int station, boolean isArrival)
             throws IndexOutOfBoundsException, NoSuchElementException {
-        requireTrain(train);
-        requireStation(station);
         requireEvent(train, station, isArrival);
         return actualTimes.time(train, station, isArrival);
     }
@@ -283,8 +280,6 @@ public final class TrainTimetable {
 
     public int cause(int train, int station, boolean isArrival)
             throws IndexOutOfBoundsException, NoSuchElementException {
-        requireTrain(train);
-        requireStation(station);
         requireEvent(train, station, isArrival);
         return actualTimes.reason(train, station, isArrival);
     }
@@ -319,8 +314,6 @@ public final class TrainTimetable {
     }
 
     public int tolerance(int train, int station) throws IndexOutOfBoundsException, NoSuchElementException {
-        requireTrain(train);
-        requireStation(station);
         requireEvent(train, station, false);
         int minutes = MAX_TOLERANCE + 1;
         boolean isLate = true;
@@ -369,6 +362,8 @@ public final class TrainTimetable {
     }
 
     private void requireEvent(int train, int station, boolean isArrival) {
+        requireTrain(train);
+        requireStation(station);
         if (!line.hasEvent(train, station, isArrival)) {
             throw new NoSuchElementException("the train has no such event there");
         }
