@@ -2,13 +2,19 @@ import java.nio.charset.StandardCharsets;
 import java.util.Objects;
 
 /** Counts right and wrong answers, and feeds texts to timetables. */
-final class Check {
+class Check {
     interface Call {
         Object run();
     }
 
     private int right;
     private int wrong;
+    private String heading = "";
+
+    /** What is printed before each wrong answer from now on. */
+    void heading(String text) {
+        heading = text;
+    }
 
     /** The answer of a call, or the simple name of the exception that it throws. */
     static Object outcome(Call call) {
@@ -24,7 +30,7 @@ final class Check {
             right++;
         } else {
             wrong++;
-            System.out.println(what + " answered " + got + ", due is " + want);
+            System.out.println(heading + what + " answered " + got + ", due is " + want);
         }
     }
 
