@@ -738,7 +738,6 @@ public final class TrainTimetable {
         void setEarliest(int train, int start) {
             for (int station = 0; station < MAX_STATIONS; station++) {
                 floors[event(train, station, false)] = 0;
-                floors[event(train, station, true)] = 0;
             }
             floors[event(train, line.of(train, FIRST), false)] = start;
         }
