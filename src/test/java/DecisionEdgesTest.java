@@ -354,6 +354,15 @@ public final class DecisionEdgesTest {
         edges.due("the delay stays", 4, x::totalDelay);
         edges.due("the planned times stay", 38, () -> x.planned(0, 2, true));
         edges.due("the actual times stay", 38, () -> x.actual(0, 2, true));
+        // of a train with many segments, and then of one with few
+        TrainTimetable z = Check.loaded(LONG + "train 3 4 500 1 0;");
+        for (int segment = 0; segment < 7; segment++) {
+            z.setSupplement(0, segment, 9);
+        }
+        edges.due("of the long way", 0, () -> z.leastDelay(0, 5));
+        edges.due("of the short way", 0, () -> z.leastDelay(1, 5));
+        edges.due("the supplements of the long way", 63, () -> z.train(0, 5));
+        edges.due("the supplements of the short way", 0, () -> z.train(1, 5));
         // in the actual orders
         TrainTimetable y = Check.loaded(PAIR);
         y.overtake(0, 0, 1);

@@ -255,6 +255,12 @@ public final class TextEdgesTest {
         edges.due("load of a text with another first station", 2, w::load);
         edges.equal("the state of another first station", State.of(Check.loaded(shorter)), State.of(w));
 
+        // nobody waits for a connection that there was
+        TrainTimetable v = Check.loaded(shorter + "connect 0 1 1 30;".repeat(8));
+        Check.put(v, shorter);
+        edges.due("load of a text without connections", 2, v::load);
+        edges.equal("the state without connections", State.of(Check.loaded(shorter)), State.of(v));
+
         TrainTimetable z = disturbed(full);
         Check.put(z, TWO);
         edges.due("load of a line without trains", 0, z::load);
