@@ -749,7 +749,8 @@ public final class TrainTimetable {
          * there both segments have the same order, since nobody overtakes.
          */
         void compute() {
-            for (int station = 0; station < line.stations; station++) {
+            int segments = line.stations - 1;
+            for (int station = 0; station <= segments; station++) {
                 int before = Math.max(station - 1, 0);
                 boolean isSiding = line.hasSiding(station);
                 for (int index = 0; index < line.trains; index++) {
@@ -759,7 +760,8 @@ public final class TrainTimetable {
                         settle(train, station, false);
                     }
                 }
-                for (int index = 0; isSiding && index < line.trains; index++) {
+                // No segment leads on from the last station, so there is no order to take there.
+                for (int index = 0; isSiding && station < segments && index < line.trains; index++) {
                     settle(orders.at(station, index), station, false);
                 }
             }

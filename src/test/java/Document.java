@@ -47,6 +47,14 @@ final class Document {
         return saysUnder(OUTSIDE, sentence);
     }
 
+    /** The lines of "The public face" that say something public. */
+    List<String> face() {
+        return lines.getOrDefault(OUTSIDE, List.of()).stream()
+                .filter(line -> line.startsWith("    public "))
+                .map(line -> line.substring("    public ".length()))
+                .toList();
+    }
+
     /**
      * The lines of a promise that a boundary case can hardly be missing from: what it throws, and what
      * has a number, or a second case behind a semicolon or in brackets.

@@ -3,14 +3,12 @@ import java.lang.reflect.Constructor;
 import java.lang.reflect.Field;
 import java.lang.reflect.Method;
 import java.lang.reflect.Modifier;
-import java.nio.file.Files;
-import java.nio.file.Path;
 import java.util.Arrays;
 import java.util.Set;
 import java.util.TreeSet;
 import java.util.stream.Collectors;
 
-/** The public face of the document, and the rules of LANGUAGE.md that can be seen from outside. */
+/** The public face of the document, and rule 1 of LANGUAGE.md. */
 public final class FaceTest {
     private static final String[] FACE = {
         "int append(int, int, int, int, int) IllegalStateException",
@@ -52,9 +50,24 @@ public final class FaceTest {
 
     public static void main(String[] args) throws IOException {
         face();
+        document();
         privateNames();
-        source(Files.readString(Path.of("src/main/java/TrainTimetable.java")));
         check.end();
+    }
+
+    /** The list above is the one of the document. */
+    private static void document() throws IOException {
+        Set<String> lines = new TreeSet<>();
+        for (String line : new Document().face()) {
+            String types = line.replaceAll("\\b(int|boolean) \\w+(?=[,)])", "$1");
+            lines.add(types.replace(") throws ", ") ").replace(";", ""));
+        }
+        Set<String> due = new TreeSet<>(Arrays.asList(FACE));
+        due.add("static final int NONE = -1");
+        due.add("TrainTimetable()");
+        if (Document.isThere()) {
+            check.equal("the face in the document", due, lines);
+        }
     }
 
     private static String names(Class<?>[] types) {
@@ -109,16 +122,5 @@ public final class FaceTest {
         }
         names.retainAll(taken);
         check.equal("names of the face inside", new TreeSet<String>(), names);
-    }
-
-    private static void source(String source) {
-        for (String banned : new String[] {"->", "::", "catch", "finally", "synchronized", "assert ", "Exact",
-            "package ", "static {", "instanceof"}) {
-            check.equal("the source has " + banned, false, source.contains(banned));
-        }
-        Set<String> imports = source.lines().filter(line -> line.startsWith("import "))
-                .collect(Collectors.toCollection(TreeSet::new));
-        check.equal("imports", Set.of("import java.util.Arrays;", "import java.util.NoSuchElementException;"),
-                imports);
     }
 }
